@@ -177,10 +177,10 @@ public final class ReversalMesh {
     public int send(int node, int g, int word) throws IndexOutOfBoundsException, UnsupportedOperationException {
         requireNode(node);
         Goal goal = madeGoal(g);
-        if (packets.made >= MOST_PACKETS) {
+        int packet = packets.add(node, g, word);
+        if (packet == NONE) {
             throw new UnsupportedOperationException("there are 200 packets");
         }
-        int packet = packets.add(node, g, word);
         deliverAtHome(packet, goal);
         return packet;
     }
@@ -858,6 +858,7 @@ public final class ReversalMesh {
         }
     }
 
+    /** The packets, delivered or not, by their numbers. */
     private static final class Packets {
         final int[] node = new int[MOST_PACKETS];
         final int[] goal = new int[MOST_PACKETS];
@@ -867,6 +868,7 @@ public final class ReversalMesh {
         int made;
         int arrived;
 
+        /** Answers the new packet's number; NONE, when there is no room for it. */
         int add(int at, int to, int text) {
             if (made >= MOST_PACKETS) {
                 return NONE;

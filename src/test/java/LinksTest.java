@@ -10,6 +10,7 @@ public final class LinksTest {
         upSendsForEachGoal();
         upSendsAsksOfAskingNodes();
         downCountsLostMessages();
+        lostMessagesStayLost();
         downRefuses();
         downTakesGoalsByNumbers();
         timeGoesOn();
@@ -127,6 +128,22 @@ public final class LinksTest {
         CHECK.state("what was seen is gone", () -> x.saw(1, 0, 0, 0));
     }
 
+    /** The messages that were lost are neither drained nor found on a link that appears later. */
+    private static void lostMessagesStayLost() {
+        ReversalMesh x = askingMesh();
+        CHECK.due("lost", 2, x.down(1, 2));
+        CHECK.due("lost", 2, x.down(1, 3));
+        CHECK.due("drain goes on with the others", 4, x.drain(100));
+        x.goal(1, 1, 2);
+        x.up(1, 2);
+        CHECK.due("new ones: two asks, and the new goal's height", 3, x.count(1));
+        CHECK.due("ASK", 0, x.step(2, 1));
+        CHECK.state("one was sent", () -> x.step(2, 1));
+        CHECK.due("ASK", 0, x.step(1, 2));
+        CHECK.due("HEIGHT of goal 1", 4, x.step(1, 2));
+        CHECK.state("two were sent", () -> x.step(1, 2));
+    }
+
     private static void downRefuses() {
         ReversalMesh x = new ReversalMesh();
         x.up(0, 1);
@@ -205,17 +222,8 @@ public final class LinksTest {
 
     /** Mode 2 nodes that asked do nothing at an ASK: drain's order shows in what still waits. */
     private static void drainGoesByNumbers() {
-        ReversalMesh x = new ReversalMesh();
-        x.goal(0, 23, 2);
-        for (int node = 1; node <= 4; node++) {
-            x.query(node, 0);
-        }
-        x.up(3, 1);
-        x.up(1, 2);
-        x.up(3, 2);
-        x.up(4, 1);
         int[][] order = {{1, 2}, {1, 3}, {1, 4}, {2, 1}, {2, 3}, {3, 1}, {3, 2}, {4, 1}};
-        CHECK.due("messages", order.length, x.count(1));
+        CHECK.due("messages", order.length, askingMesh().count(1));
         for (int i = 0; i < order.length; i++) {
             ReversalMesh y = askingMesh();
             if (i > 0) {
