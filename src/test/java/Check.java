@@ -9,6 +9,7 @@ final class Check {
     }
 
     private final String name;
+    private String sentence = "";
     private int asked;
     private int wrong;
 
@@ -16,12 +17,36 @@ final class Check {
         this.name = name;
     }
 
+    /** What the next answers are due by. */
+    void under(String words) {
+        sentence = words.isEmpty() ? "" : words + ": ";
+    }
+
+    private void isWrong(String told) {
+        wrong++;
+        System.out.println(name + ": " + sentence + told);
+    }
+
     void due(String what, long want, long got) {
         asked++;
         if (got != want) {
-            wrong++;
-            System.out.println(name + ": " + what + " answered " + got + ", due is " + want);
+            isWrong(what + " answered " + got + ", due is " + want);
         }
+    }
+
+    void same(String what, String want, String got) {
+        asked++;
+        if (!got.equals(want)) {
+            isWrong(what + ", but " + firstOther(want.split("\n"), got.split("\n")));
+        }
+    }
+
+    private static String firstOther(String[] want, String[] got) {
+        int line = 0;
+        while (line < want.length && line < got.length && want[line].equals(got[line])) {
+            line++;
+        }
+        return (line < got.length ? got[line] : "an end") + ", due is " + (line < want.length ? want[line] : "an end");
     }
 
     void yes(String what, boolean got) {
@@ -48,8 +73,7 @@ final class Check {
         asked++;
         String got = outcome(call);
         if (!got.equals("throws " + want)) {
-            wrong++;
-            System.out.println(name + ": " + what + " gave " + got + ", due is throws " + want);
+            isWrong(what + " gave " + got + ", due is throws " + want);
         }
     }
 

@@ -36,10 +36,11 @@ public final class LinksTest {
             CHECK.bounds("new: goal " + g, () -> x.next(0, goal));
         }
         for (int a = 0; a < 24; a++) {
+            ReversalMesh y = new ReversalMesh();
             for (int b = 0; b < 24; b++) {
                 int from = a;
                 int to = b;
-                CHECK.state("new: link " + a + " " + b, () -> x.down(from, to));
+                CHECK.state("new: link " + a + " " + b, () -> y.down(from, to));
             }
         }
     }

@@ -1,12 +1,18 @@
+import java.util.ArrayList;
 import java.util.List;
 import java.util.Map;
 import java.util.Random;
 import java.util.TreeMap;
 
-/** Random runs of 512 calls, each call held against PlainMesh: answers, exact exceptions, and all state. */
+/**
+ * Random runs, each call held against PlainMesh: answers, exact exceptions, and all state. No mesh is asked more
+ * than 512 times: for more questions, the run is made again on a new one.
+ */
 public final class ModelTest {
     private static final int RUNS = 600;
     private static final int CALLS = 512;
+    private static final int CALLS_BEFORE_LOOKING = 400;
+    private static final int LOOK_AFTER = 100;
     private static final List<String> RULES = List.of(
             "FULL", "PARTIAL", "PARTIAL with b", "a HEIGHT lets find", "a full way", "a level forgotten",
             "a level forgotten at the goal", "a link lost", "an ASK lets an asking one find", "an ASK lets find",
@@ -14,17 +20,23 @@ public final class ModelTest {
             "starts a level", "the last link lost", "yields to nothing", "yields to the greatest level");
 
     private final Random random;
-    private final ReversalMesh mesh = new ReversalMesh();
     private final PlainMesh plain;
     private final int nodes;
     private final int onlyMode;
+    /** Runs that are looked at leave some of their calls for that. */
+    private final boolean isLookedAt;
+    private final List<Check.Call> run = new ArrayList<>();
     private final StringBuilder told = new StringBuilder();
+    private ReversalMesh mesh = new ReversalMesh();
+    private int calls;
+    private boolean isLooking;
 
     private ModelTest(int seed, Map<String, Integer> rules) {
         random = new Random(seed);
         plain = new PlainMesh(rules);
         nodes = seed % 5 == 0 ? 24 : 3 + random.nextInt(7);
         onlyMode = seed % 3 == 0 ? random.nextInt(3) : seed % 3 == 1 ? 2 : -1;
+        isLookedAt = seed % 4 != 3;
     }
 
     public static void main(String[] args) {
@@ -46,16 +58,35 @@ public final class ModelTest {
 
     private boolean run() {
         boolean same = true;
-        for (int call = 0; same && call < CALLS; call++) {
+        int most = isLookedAt ? CALLS_BEFORE_LOOKING : CALLS;
+        for (int call = 1; same && call <= most; call++) {
             same = oneCall();
-            if (same && call % 64 == 63) {
+            if (same && isLookedAt && call % LOOK_AFTER == 0) {
+                isLooking = true;
                 same = sameState();
+                isLooking = false;
+                runAgain();
             }
         }
         return same;
     }
 
+    private void runAgain() {
+        mesh = new ReversalMesh();
+        calls = run.size();
+        for (Check.Call call : run) {
+            Check.outcome(call);
+        }
+    }
+
     private boolean same(String call, Check.Call ours, Check.Call due) {
+        if (calls == CALLS) {
+            runAgain();
+        }
+        calls++;
+        if (!isLooking) {
+            run.add(ours);
+        }
         String got = Check.outcome(ours);
         String want = Check.outcome(due);
         if (told.length() < 100_000) {
