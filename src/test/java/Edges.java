@@ -70,11 +70,15 @@ final class Edges {
     /** The call throws just that, and leaves everything that can be asked as it was. */
     static void refused(String exception, Supplier<ReversalMesh> maker, String what, Asked asked) {
         CHECK.thrown(what, exception, () -> asked.of(maker.get()));
+        unchanged(maker, what, asked);
+    }
+
+    static void unchanged(Supplier<ReversalMesh> maker, String what, Asked asked) {
         String after = Snapshot.of(() -> {
             ReversalMesh mesh = maker.get();
             Check.outcome(() -> asked.of(mesh));
             return mesh;
         });
-        CHECK.same(what + " is refused and changes nothing", BEFORE.computeIfAbsent(maker, Snapshot::of), after);
+        CHECK.same(what + " changes nothing", BEFORE.computeIfAbsent(maker, Snapshot::of), after);
     }
 }

@@ -1,4 +1,4 @@
-/** Mode 2: asking, finding, yielding, noticing, clearing, and links that are lost. Goal 0 is node 0 throughout. */
+/** Mode 2: asking, finding, yielding, noticing, clearing, lost links. Goal 0 is node 0, unless a test makes another. */
 final class FiveEdges {
     private static final Check CHECK = Edges.CHECK;
 
@@ -52,9 +52,11 @@ final class FiveEdges {
         edges.test("CLEAR (t, o) delivered: when the receiver, not the goal, has a height of level (t, o, 1): it has"
                 + " none then, saw none of any neighbour but the goal, is not asking, and sends CLEAR (t, o) to each"
                 + " neighbour.",
-                FiveEdges::clearOfItsLevel, FiveEdges::clearBesideTheGoal, FiveEdges::clearGoesOn);
+                FiveEdges::clearOfItsLevel, FiveEdges::clearBesideTheGoal, FiveEdges::clearWithTheGoalElsewhere,
+                FiveEdges::clearGoesOn);
         edges.test("Else: of neighbours that it saw with that level it saw none;",
-                FiveEdges::clearAtOneWithout, FiveEdges::clearAtAnAsker, FiveEdges::clearAtTheGoal,
+                FiveEdges::clearAtOneWithout, FiveEdges::clearAtOneWithSix, FiveEdges::clearAtAnAsker,
+                FiveEdges::clearAtTheGoal,
                 FiveEdges::clearOfTheSameLevelWithBit0, FiveEdges::clearOfAnotherTime,
                 FiveEdges::clearOfAnotherOrigin);
         edges.test("and with a height, not the goal, and without a lower neighbour it yields.",
@@ -71,10 +73,11 @@ final class FiveEdges {
                 FiveEdges::yieldToTheGreatestBit, FiveEdges::yieldBelowTheLeastDepth,
                 FiveEdges::yieldBelowADepthBelowZero);
         edges.test("All of one level (t, o, b): with b 0: level (t, o, 1), depth 0.",
-                FiveEdges::yieldToOneOfBit0, FiveEdges::yieldToSeveralOfBit0, FiveEdges::yieldToTheGoalsLevel);
+                FiveEdges::yieldToOneOfBit0, FiveEdges::yieldToSeveralOfBit0, FiveEdges::yieldOfTheHighestNode,
+                FiveEdges::yieldToTheGoalsLevel);
         edges.test("With b 1, o being itself: it NOTICES that it is cut off: it has no height then, saw none of any"
                 + " neighbour but the goal, and sends CLEAR (t, o) to each neighbour.",
-                FiveEdges::noticeOverOne, FiveEdges::noticeOverSeveral);
+                FiveEdges::noticeOverOne, FiveEdges::noticeOverSeveral, FiveEdges::noticeOfNodeZero);
         edges.test("With b 1, another o: level (now, itself, 0), depth 0.",
                 FiveEdges::yieldToAnothersBit1, FiveEdges::yieldToTheHeightThatItHas);
         edges.test("With a new height it tells it.", FiveEdges::yieldIsTold);
@@ -156,7 +159,7 @@ final class FiveEdges {
         isHeight(x, 2, x.count(2), 5, 1, 0);
     }
 
-    /** A node has a height without asking, when another one asks it: what it saw before is all it finds from. */
+    /** A new neighbour, without a height, asks a node: what the node saw before is all that it can find from. */
     private static void askFrom(ReversalMesh x, int asker, int node) {
         x.query(asker, 0);
         x.up(asker, node);
@@ -480,6 +483,31 @@ final class FiveEdges {
         isHeight(x, 2, 0, 0, 0, 1);
     }
 
+    /** The goal is node 12: what node 2 saw of that stays, and node 0 is a node as any other. */
+    private static void clearWithTheGoalElsewhere() {
+        ReversalMesh x = new ReversalMesh();
+        x.goal(0, 12, 2);
+        follow(x, 5, 12);
+        follow(x, 0, 5);
+        follow(x, 2, 5);
+        x.down(12, 5);
+        steps(x, 5, 2, 1);
+        isHeight(x, 2, 1, 5, 1, 0);
+        see(x, 2, 0);
+        see(x, 2, 12);
+        steps(x, 2, 5, 0, 1, 1);
+        CHECK.due("5 noticed", 1, x.state(5, 0, 3));
+        steps(x, 5, 2, 1, 2);
+        isWithout(x, 2);
+        sawNone(x, 2, 0);
+        sawNone(x, 2, 5);
+        CHECK.due("still saw the goal", 12, x.saw(2, 12, 0, 4));
+        steps(x, 5, 0, 1);
+        isHeight(x, 0, 1, 5, 1, 0);
+        steps(x, 5, 0, 2);
+        isWithout(x, 0);
+    }
+
     /** Nodes 9 and 10 took up the level (1, 5, 1) from node 2; the CLEAR goes the same way, and ends there. */
     private static void clearGoesOn() {
         ReversalMesh x = mesh();
@@ -505,20 +533,19 @@ final class FiveEdges {
         }
     }
 
-    /** Node 2 tells of its level to node 9, then is cleared: a CLEAR waits behind it. */
-    private static ReversalMesh clearBehindTheLevel() {
+    /** Node 2 tells of its level to a node, then is cleared: a CLEAR waits behind it. */
+    private static ReversalMesh clearBehindTheLevel(int node) {
         ReversalMesh x = mesh();
         reflect(x);
-        x.up(2, 9);
-        steps(x, 2, 9, 1);
+        see(x, node, 2);
         steps(x, 2, 5, 1);
         steps(x, 5, 2, 2);
-        CHECK.due("9 saw the bit", 1, x.saw(9, 2, 0, 2));
+        CHECK.due("it saw the bit", 1, x.saw(node, 2, 0, 2));
         return x;
     }
 
     private static void clearAtOneWithout() {
-        ReversalMesh x = clearBehindTheLevel();
+        ReversalMesh x = clearBehindTheLevel(9);
         x.up(9, 10);
         int before = x.count(1);
         steps(x, 2, 9, 2);
@@ -528,8 +555,28 @@ final class FiveEdges {
         CHECK.due("it does not go on", before - 1, x.count(1));
     }
 
+    /** The highest node has six neighbours, of which it saw two with that level, and one with another one. */
+    private static void clearAtOneWithSix() {
+        ReversalMesh x = mesh();
+        reflect(x);
+        follow(x, 9, 2);
+        see(x, 23, 2);
+        see(x, 23, 9);
+        see(x, 23, 0);
+        for (int other = 12; other <= 14; other++) {
+            x.up(23, other);
+        }
+        steps(x, 2, 5, 1);
+        steps(x, 5, 2, 2);
+        steps(x, 2, 23, 2);
+        sawNone(x, 23, 2);
+        sawNone(x, 23, 9);
+        CHECK.due("still saw the goal", 0, x.saw(23, 0, 0, 4));
+        isWithout(x, 23);
+    }
+
     private static void clearAtAnAsker() {
-        ReversalMesh x = clearBehindTheLevel();
+        ReversalMesh x = clearBehindTheLevel(9);
         x.query(9, 0);
         steps(x, 2, 9, 2);
         sawNone(x, 9, 2);
@@ -613,7 +660,7 @@ final class FiveEdges {
 
     /** Node 9 leads to the goal; what it saw of node 2 is gone, which changes nothing else. */
     private static void clearLeavesALowerNeighbour() {
-        ReversalMesh x = clearBehindTheLevel();
+        ReversalMesh x = clearBehindTheLevel(9);
         lean(x, 9);
         isHeight(x, 9, 0, 0, 0, 1);
         int before = x.count(1);
@@ -626,7 +673,7 @@ final class FiveEdges {
 
     /** Node 9 has the level (4, 9, 0), and saw node 2 below that; a CLEAR waits there. */
     private static ReversalMesh clearOfTheOnlyLowerOne() {
-        ReversalMesh x = clearBehindTheLevel();
+        ReversalMesh x = clearBehindTheLevel(9);
         x.time(3);
         lean(x, 9);
         x.down(0, 9);
@@ -796,6 +843,19 @@ final class FiveEdges {
         isHeight(x, 20, 1, 5, 1, 0);
     }
 
+    /** Node 23 has six neighbours, of which it saw one. */
+    private static void yieldOfTheHighestNode() {
+        ReversalMesh x = mesh();
+        lean(x, 5);
+        follow(x, 23, 5);
+        for (int other = 7; other <= 11; other++) {
+            x.up(23, other);
+        }
+        x.down(0, 5);
+        steps(x, 5, 23, 1);
+        isHeight(x, 23, 1, 5, 1, 0);
+    }
+
     private static void noticeOverOne() {
         ReversalMesh x = mesh();
         reflect(x);
@@ -829,6 +889,22 @@ final class FiveEdges {
         steps(x, 5, 2, 2);
         steps(x, 5, 9, 1, 2);
         steps(x, 5, 10, 1, 2);
+    }
+
+    private static void noticeOfNodeZero() {
+        ReversalMesh x = new ReversalMesh();
+        x.goal(0, 23, 2);
+        follow(x, 0, 23);
+        follow(x, 1, 0);
+        x.down(23, 0);
+        isHeight(x, 0, 1, 0, 0, 0);
+        steps(x, 0, 1, 1);
+        isHeight(x, 1, 1, 0, 1, 0);
+        steps(x, 1, 0, 0, 1, 1);
+        isWithout(x, 0);
+        CHECK.due("noticed", 1, x.state(0, 0, 3));
+        steps(x, 0, 1, 1, 2);
+        isWithout(x, 1);
     }
 
     /** Node 20 sees nothing but (1, 5, 1, 0) of node 2. */
@@ -869,7 +945,7 @@ final class FiveEdges {
         isHeight(x, 3, 1, 3, 0, 0);
         CHECK.due("it was given one", 3, x.state(3, 0, 2));
         CHECK.due("and told both", before - 1 + 2, x.count(1));
-        // with a time that is older than its own, the same would be lower, and nothing to yield to
+        // an older time than its own is lower, and nothing to yield to
         ReversalMesh y = mesh();
         reflect(y);
         y.time(1);
@@ -1012,8 +1088,8 @@ final class FiveEdges {
         int lost = x.down(20, 6);
         isHeight(x, 20, 0, 0, 0, 2);
         CHECK.due("given once", 1, x.state(20, 0, 2));
-        CHECK.due("6 had 20 below itself only as it knew it: not at all", 4, x.height(6, 0, 0));
-        CHECK.due("6 alone tells, its other neighbour", before - lost + 1, x.count(1));
+        CHECK.due("6 saw nothing lower, and begins a level", 4, x.height(6, 0, 0));
+        CHECK.due("which it tells its other neighbour", before - lost + 1, x.count(1));
     }
 
     private static void lostLastLink() {

@@ -17,7 +17,7 @@ final class GoalEdges {
         edges.at("Promise 8: query");
         edges.test("A node wants a way to a goal: whether it asked then (not, when it was asking already).",
                 GoalEdges::queryAsksOnce, GoalEdges::queryWithAHeight, GoalEdges::queryOfTheLowestAndTheHighestNode,
-                GoalEdges::queryAgainAfterALoss);
+                GoalEdges::queryAgainAfterALoss, GoalEdges::queryThatAsksNothingChangesNothing);
         edges.test("For all calls with a goal: IndexOutOfBoundsException, when there is no such node,"
                 + " or the goal was not made.",
                 GoalEdges::callsWithAGoalRefuseNodes, GoalEdges::callsWithAGoalRefuseGoals);
@@ -102,6 +102,15 @@ final class GoalEdges {
         x.down(0, 1);
         CHECK.yes("without", x.query(1, 0));
         CHECK.no("asking", x.query(1, 0));
+    }
+
+    private static void queryThatAsksNothingChangesNothing() {
+        int[][] queries = {{7, 0}, {0, 0}, {4, 0}, {1, 1}, {5, 1}, {23, 5}, {9, 5}};
+        for (int[] told : queries) {
+            String what = "query(" + told[0] + ", " + told[1] + ")";
+            CHECK.no(what, Meshes.busy().query(told[0], told[1]));
+            Edges.unchanged(Meshes.BUSY, what, x -> x.query(told[0], told[1]) ? 1 : 0);
+        }
     }
 
     private static void callsWithAGoalRefuseNodes() {

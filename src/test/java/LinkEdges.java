@@ -241,6 +241,7 @@ final class LinkEdges {
         Edges.refused(Edges.STATE, Meshes.BUSY, "up(0, 1)", x -> x.up(0, 1));
         Edges.refused(Edges.STATE, Meshes.BUSY, "up(1, 0)", x -> x.up(1, 0));
         Edges.refused(Edges.STATE, Meshes.BUSY, "up(5, 6), there, and 5 has six", x -> x.up(5, 6));
+        Edges.refused(Edges.STATE, Meshes.FULL_WAY, "up(10, 1), on which 64 wait", x -> x.up(10, 1));
     }
 
     private static void upTakesTheSixthAndRefusesTheSeventh() {

@@ -50,7 +50,8 @@ final class PacketEdges {
     private static void count(Edges edges) {
         edges.at("Promise 17: count");
         edges.test("Links (0), messages that wait (1), now (2), packets (3), packets that are delivered (4).",
-                PacketEdges::countOfNothing, PacketEdges::countOfEach, PacketEdges::countOfTheMost);
+                PacketEdges::countOfNothing, PacketEdges::countOfEach, PacketEdges::countOfTheMost,
+                PacketEdges::questionsChangeNothing);
         edges.test("NONE for another what.", PacketEdges::countOfAnother);
     }
 
@@ -301,6 +302,14 @@ final class PacketEdges {
         }
         CHECK.due("packets", 200, x.count(3));
         CHECK.due("delivered", 200, x.count(4));
+    }
+
+    /** What only asks leaves all as it was, with an answer or without. */
+    private static void questionsChangeNothing() {
+        Edges.unchanged(Meshes.BUSY, "a row of questions", x -> {
+            long sum = x.next(4, 0) + x.height(4, 0, 3) + x.saw(4, 3, 0, 3) + x.state(4, 0, 2);
+            return sum + x.packet(1, 2) + x.got(0, 0) + x.count(1) + x.count(5);
+        });
     }
 
     private static void countOfAnother() {

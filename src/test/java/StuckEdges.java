@@ -24,12 +24,15 @@ final class StuckEdges {
                 () -> bothModes(StuckEdges::askedAtAHeight), () -> bothModes(StuckEdges::askedAtALostLink),
                 () -> bothModes(StuckEdges::notStuckAtALostLink));
         edges.test("Stuck, FULL: a becomes 1 more than the greatest a that it saw.",
-                StuckEdges::fullAboveOne, StuckEdges::fullAboveTheGreatest);
+                StuckEdges::fullAboveOne, StuckEdges::fullAboveTheGreatest, StuckEdges::fullWithoutALostNeighbour,
+                () -> isHeight(sixAtTheHighestNode(0), 23, 7, 0));
         edges.test("PARTIAL: a becomes 1 more than the least a that it saw;",
-                StuckEdges::partialAboveOne, StuckEdges::partialAboveTheLeast);
+                StuckEdges::partialAboveOne, StuckEdges::partialAboveTheLeast,
+                StuckEdges::partialWithoutALostNeighbour);
         edges.test("if it saw some with this new a, b becomes 1 less than the least b of these.",
                 StuckEdges::partialBesideNone, StuckEdges::partialBesideOne, StuckEdges::partialBesideSeveral,
-                StuckEdges::partialKeepsItsB);
+                StuckEdges::partialBesideALostNeighbour, StuckEdges::partialKeepsItsB,
+                () -> isHeight(sixAtTheHighestNode(1), 23, 2, -1));
         edges.test("Then it tells its height.", () -> bothModes(StuckEdges::raisedIsTold));
     }
 
@@ -283,6 +286,37 @@ final class StuckEdges {
         isHeight(fourNeighbours(0), 9, 6, 0);
     }
 
+    /** Node 9 saw a 4 of node 8, but lost that link. */
+    private static void fullWithoutALostNeighbour() {
+        ReversalMesh x = meshOf(0, 23);
+        pair(x, 1, 2, 1);
+        pair(x, 3, 4, 3);
+        pair(x, 7, 8, 4);
+        see(x, 9, 8, 1);
+        isHeight(x, 9, 5, 0);
+        ReversalMesh y = meshOf(0, 23);
+        pair(y, 1, 2, 1);
+        pair(y, 3, 4, 3);
+        pair(y, 7, 8, 4);
+        y.up(9, 3);
+        see(y, 9, 8, 1);
+        y.down(9, 8);
+        isHeight(y, 9, 0, 0);
+        y.step(3, 9);
+        isHeight(y, 9, 4, 0);
+    }
+
+    /** Node 23 sees the a 1 to 6 of six neighbours, all with b 0: the greatest one last. */
+    private static ReversalMesh sixAtTheHighestNode(int mode) {
+        ReversalMesh x = meshOf(mode, 0);
+        for (int a = 1; a <= 6; a++) {
+            pair(x, 2 * a, 2 * a + 1, a);
+        }
+        see(x, 23, 2, 5, 6, 9, 10, 13);
+        CHECK.due("stuck once", 1, x.state(23, 0, 2));
+        return x;
+    }
+
     private static void partialAboveOne() {
         ReversalMesh x = meshOf(1, 23);
         x.up(1, 2);
@@ -295,6 +329,20 @@ final class StuckEdges {
 
     private static void partialAboveTheLeast() {
         isHeight(fourNeighbours(1), 9, 2, 0);
+    }
+
+    /** Node 9 saw a 1 of node 5, but lost that link. */
+    private static void partialWithoutALostNeighbour() {
+        ReversalMesh x = meshOf(1, 23);
+        pair(x, 1, 2, 3);
+        pair(x, 3, 4, 4);
+        pair(x, 5, 6, 1);
+        x.up(9, 4);
+        see(x, 9, 1, 5);
+        x.down(9, 5);
+        isHeight(x, 9, 0, 0);
+        x.step(4, 9);
+        isHeight(x, 9, 4, -1);
     }
 
     /** Node 9 sees a 1 and a 3: its new a is 2, which is that of nobody. */
@@ -335,6 +383,18 @@ final class StuckEdges {
         pair(x, 7, 8, 1);
         see(x, 12, 4, 9, 6, 7);
         isHeight(x, 12, 2, -2);
+    }
+
+    /** Node 12 saw a 2 with b -1 of node 9, but lost that link. */
+    private static void partialBesideALostNeighbour() {
+        ReversalMesh x = besideOne();
+        pair(x, 7, 8, 1);
+        x.up(12, 7);
+        see(x, 12, 4, 9);
+        x.down(12, 9);
+        isHeight(x, 12, 0, 0);
+        x.step(7, 12);
+        isHeight(x, 12, 2, -1);
     }
 
     /** Node 9 has b -1; then it sees a 5 alone, and nobody has its new a. */

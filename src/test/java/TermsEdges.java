@@ -68,7 +68,8 @@ final class TermsEdges {
                 TermsEdges::linkAppearsBesideAskers);
         edges.test("A link VANISHES: what waits on it is lost; for each goal, first the node told first, then the"
                 + " other one, lost a link.",
-                TermsEdges::linkVanishesWithItsMessages, TermsEdges::linkVanishesForBoth);
+                TermsEdges::linkVanishesWithItsMessages, TermsEdges::linkVanishesBesideOthers,
+                TermsEdges::linkVanishesForBoth);
     }
 
     private static void nodeWithNeighbours(int many) {
@@ -210,10 +211,9 @@ final class TermsEdges {
         ReversalMesh x = Meshes.fullWay();
         int before = x.count(1);
         x.goal(1, 23, 0);
-        // nodes 0 and 1, 10 and 11, and node 10 tell each neighbour; node 1 finds no room to node 10
+        // three links are told both ways, but there is no room from node 1 to node 10
         CHECK.due("five of six wait", before + 5, x.count(1));
-        CHECK.due("10 to 1", 4, x.step(10, 1));
-        CHECK.due("65 vanish with the link if both ways have some", 64, x.down(1, 10));
+        CHECK.due("a full way, and one the other way", 64 + 1, x.down(1, 10));
     }
 
     private static void anAskIsLostToo() {
@@ -546,6 +546,25 @@ final class TermsEdges {
             x.up(0, 1);
             CHECK.due("only new ones wait", 2, x.count(1));
         }
+    }
+
+    /** What is lost does not stand in the way of what waits on other links. */
+    private static void linkVanishesBesideOthers() {
+        ReversalMesh x = new ReversalMesh();
+        x.goal(0, 0, 2);
+        for (int node = 1; node <= 5; node++) {
+            x.query(node, 0);
+        }
+        x.up(1, 2);
+        x.up(1, 3);
+        x.up(4, 5);
+        CHECK.due("down(1, 2)", 2, x.down(1, 2));
+        CHECK.due("drain(1)", 1, x.drain(1));
+        CHECK.state("1 to 3 was delivered", () -> x.step(1, 3));
+        CHECK.due("down(1, 3)", 1, x.down(1, 3));
+        CHECK.due("drain(10)", 2, x.drain(10));
+        CHECK.due("none waits", 0, x.count(1));
+        CHECK.due("links", 1, x.count(0));
     }
 
     /** Nodes 1 and 2 have the goal on different sides; both lose each other, whichever is told first. */
