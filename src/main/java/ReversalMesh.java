@@ -260,11 +260,13 @@ public final class ReversalMesh {
         }
     }
 
+    /** The goal of a number; null, when none was made by it. */
+    private Goal goalOrNull(int g) {
+        return g < 0 || g >= GOALS ? null : goals[g];
+    }
+
     private Goal madeGoal(int g) {
-        if (g < 0 || g >= GOALS) {
-            throw new IndexOutOfBoundsException("no such goal");
-        }
-        Goal goal = goals[g];
+        Goal goal = goalOrNull(g);
         if (goal == null) {
             throw new IndexOutOfBoundsException("the goal was not made");
         }
@@ -287,7 +289,7 @@ public final class ReversalMesh {
         if (message == null) {
             return NONE;
         }
-        Goal goal = goals[message.goal];
+        Goal goal = goalOrNull(message.goal);
         if (goal != null) {
             goal.receive(to, from, message);
         }
@@ -610,7 +612,7 @@ public final class ReversalMesh {
             super(net, number, home);
         }
 
-        /** Gives a stuck node its new height, which it tells. */
+        /** Gives a stuck node, which has neighbours and saw them all, its new height, which it tells. */
         abstract void raise(int node);
 
         void start() {
@@ -658,8 +660,8 @@ public final class ReversalMesh {
         }
 
         void raise(int node) {
-            int greatest = Integer.MIN_VALUE;
-            for (int place = 0; place < net.degree[node]; place++) {
+            int greatest = field(node, net.neighbour(node, 0), 0);
+            for (int place = 1; place < net.degree[node]; place++) {
                 greatest = Math.max(greatest, field(node, net.neighbour(node, place), 0));
             }
             setHeight(node, greatest + 1, 0, 0, 0);
@@ -673,8 +675,8 @@ public final class ReversalMesh {
         }
 
         void raise(int node) {
-            int least = Integer.MAX_VALUE;
-            for (int place = 0; place < net.degree[node]; place++) {
+            int least = field(node, net.neighbour(node, 0), 0);
+            for (int place = 1; place < net.degree[node]; place++) {
                 least = Math.min(least, field(node, net.neighbour(node, place), 0));
             }
             setHeight(node, least + 1, secondBeside(node, least + 1), 0, 0);
@@ -683,16 +685,15 @@ public final class ReversalMesh {
 
         /** The second field that goes with a new first one: below those that were seen beside it. */
         private int secondBeside(int node, int first) {
-            boolean some = false;
-            int least = Integer.MAX_VALUE;
+            int lowest = NONE;
             for (int place = 0; place < net.degree[node]; place++) {
                 int other = net.neighbour(node, place);
-                if (field(node, other, 0) == first) {
-                    some = true;
-                    least = Math.min(least, field(node, other, 1));
+                if (field(node, other, 0) == first
+                        && (lowest == NONE || field(node, other, 1) < field(node, lowest, 1))) {
+                    lowest = other;
                 }
             }
-            return some ? least - 1 : field(node, node, 1);
+            return lowest == NONE ? field(node, node, 1) : field(node, lowest, 1) - 1;
         }
     }
 

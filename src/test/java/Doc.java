@@ -5,12 +5,15 @@ import java.util.ArrayList;
 import java.util.LinkedHashMap;
 import java.util.List;
 import java.util.Map;
+import java.util.regex.Matcher;
+import java.util.regex.Pattern;
 
 /** The document by its headings: the tests that are named by its sentences are compared with it. */
 final class Doc {
     private static final Path PLACE = Path.of("../shared/DOC.md");
 
     private final Map<String, String> sections = new LinkedHashMap<>();
+    private final List<String> signatures = new ArrayList<>();
 
     static boolean isThere() {
         return Files.isReadable(PLACE);
@@ -21,8 +24,27 @@ final class Doc {
             int end = part.indexOf('\n');
             if (end > 0) {
                 sections.put(part.substring(0, end).trim(), plain(part.substring(end)));
+                keepSignature(part.substring(end).trim());
             }
         }
+    }
+
+    private void keepSignature(String text) {
+        Matcher matcher = Pattern.compile("^`([^`]*)`:").matcher(text);
+        if (matcher.find()) {
+            signatures.add(matcher.group(1));
+        }
+    }
+
+    /** The class's members as "The public face" writes them. */
+    List<String> face() {
+        String text = sections.getOrDefault("The public face", "");
+        return List.of(text.substring(text.indexOf('{') + 1, text.lastIndexOf(';')).trim().split(";\\s*"));
+    }
+
+    /** What the promises begin with. */
+    List<String> signatures() {
+        return signatures;
     }
 
     /** Without fences, and without the signature that a promise begins with, which FaceTest is for. */

@@ -1,7 +1,10 @@
+import java.io.IOException;
 import java.lang.reflect.Constructor;
 import java.lang.reflect.Field;
 import java.lang.reflect.Method;
 import java.lang.reflect.Modifier;
+import java.nio.file.Files;
+import java.nio.file.Path;
 import java.util.ArrayList;
 import java.util.List;
 import java.util.TreeSet;
@@ -13,11 +16,16 @@ public final class FaceTest {
     private static final String ARGUMENT = "IllegalArgumentException";
     private static final String STATE = "IllegalStateException";
 
-    public static void main(String[] args) {
+    public static void main(String[] args) throws IOException {
         theClass();
         theConstants();
         theMethods();
         theClassesInside();
+        if (Doc.isThere()) {
+            asTheDocumentWritesIt(new Doc());
+        } else {
+            System.out.println("FaceTest: the document can't be read, so its words are not compared");
+        }
         CHECK.end();
     }
 
@@ -74,6 +82,22 @@ public final class FaceTest {
         }
     }
 
+    /** Letter by letter: what the compiler drops, such as the parameters' names, is looked at here alone. */
+    private static void asTheDocumentWritesIt(Doc doc) throws IOException {
+        String text = LanguageTest.code(Files.readString(Path.of("src/main/java/ReversalMesh.java")));
+        String line = text.replaceAll("\\s+", " ");
+        CHECK.yes("the class", line.contains("public final class ReversalMesh {"));
+        CHECK.due("members that the document writes", 18, doc.face().size());
+        for (String member : doc.face()) {
+            CHECK.yes("the file has " + member, line.contains(member + " {") || line.contains(member + ";"));
+        }
+        CHECK.due("what is public, beside the class", doc.face().size(), line.split("\\bpublic\\b").length - 2);
+        CHECK.due("promises", 17, doc.signatures().size());
+        for (String signature : doc.signatures()) {
+            CHECK.yes("a promise is for " + signature, doc.face().contains("public " + signature));
+        }
+    }
+
     private static String told(String name, int parameters, String... exceptions) {
         return name + " " + parameters + " " + List.of(exceptions);
     }
@@ -96,6 +120,7 @@ public final class FaceTest {
             int seen = one.getModifiers();
             CHECK.yes(one.getName() + " is static", Modifier.isStatic(seen));
             CHECK.no(one.getName() + " is seen", Modifier.isPublic(seen) || Modifier.isProtected(seen));
+            CHECK.yes(one.getName() + " has at most twenty fields", one.getDeclaredFields().length <= 20);
             for (Method method : one.getDeclaredMethods()) {
                 CHECK.yes(method.getName() + " takes at most seven", method.getParameterCount() <= 7);
             }

@@ -22,12 +22,13 @@ public final class LanguageTest {
         throwsOnlyNamedExceptions(text);
         staticsAreConstants(text);
         callsOnlyListedLibrary(text);
+        namesOnlyListedTypes(text);
         methodsStayShort(text);
         CHECK.end();
     }
 
     /** The file without comments and without what stands in quotes. */
-    private static String code(String text) {
+    static String code(String text) {
         return text.replaceAll("(?s)/\\*.*?\\*/", "").replaceAll("//[^\n]*", "").replaceAll("\"[^\"\n]*\"", "\"\"");
     }
 
@@ -49,8 +50,17 @@ public final class LanguageTest {
     private static void callsOnlyListedLibrary(String text) {
         Matcher matcher = Pattern.compile("\\b([A-Z][a-z]\\w*)\\.(\\w+)").matcher(text);
         while (matcher.find()) {
-            CHECK.yes("library: " + matcher.group(), List.of("Math.max", "Math.min", "Integer.MIN_VALUE",
-                    "Integer.MAX_VALUE", "Way.NUMBERS").contains(matcher.group()));
+            CHECK.yes("library: " + matcher.group(),
+                    List.of("Math.max", "Math.min", "Way.NUMBERS").contains(matcher.group()));
+        }
+    }
+
+    private static void namesOnlyListedTypes(String text) {
+        Matcher matcher = Pattern.compile("\\b[A-Z][a-z]\\w*").matcher(text);
+        while (matcher.find()) {
+            String name = matcher.group();
+            boolean own = text.contains(" class " + name + " ");
+            CHECK.yes("type: " + name, own || name.equals("Math") || name.endsWith("Exception"));
         }
     }
 
